@@ -27,7 +27,8 @@ public final class GlulxModes {
     private boolean wasRead;
 
     public GlulxModes() {
-        machine = new Machine();
+        Bytes memory = new Bytes(MEMORY_SIZE);
+        machine = new Machine(memory, new Search(memory));
         latest = new Form();
         trial = new Form();
         wasRead = false;
@@ -670,12 +671,12 @@ public final class GlulxModes {
         private int rowsDone;
         private boolean done;
 
-        private Machine() {
-            memory = new Bytes(MEMORY_SIZE);
+        private Machine(Bytes memoryUsed, Search searchUsed) {
+            memory = memoryUsed;
+            search = searchUsed;
             locals = new Bytes(LOCALS_SIZE);
             pile = new Pile();
             form = new Form();
-            search = new Search(memory);
             loaded = new int[MOST_LOADS];
             ramStart = FIRST_RAM;
         }

@@ -127,6 +127,7 @@ public final class StateTest {
         }
         b.due("count", x.told(3), 0);
         b.due("stack", x.stack(0), 0);
+        b.due("nothing above the top", x.stack(-1), 0);
         b.due("memory stays", x.octet(900), 5);
         b.due("ram stays", x.told(4), 300);
         b.due("rows stay", x.told(6), rows);
