@@ -20,16 +20,33 @@ final class Bench {
 
     private int wrong = 0;
     private int asked = 0;
+    private int askedOfSentence = 1;
+    private String sentence = "";
+
+    /** The words of the document that the answers from here on are about; a sentence without any is a wrong answer. */
+    void sentence(String words) {
+        nothingAskedIsWrong();
+        sentence = "\"" + words + "\": ";
+        askedOfSentence = 0;
+    }
+
+    private void nothingAskedIsWrong() {
+        if (askedOfSentence == 0) {
+            due("nothing was asked: ", 0, 1);
+        }
+    }
 
     void due(String call, long got, long want) {
         asked++;
+        askedOfSentence++;
         if (got != want) {
             wrong++;
-            System.out.println(call + " answered " + got + ", due is " + want);
+            System.out.println(sentence + call + " answered " + got + ", due is " + want);
         }
     }
 
     void end() {
+        nothingAskedIsWrong();
         System.out.println(asked + " answers, " + wrong + " wrong");
         if (wrong != 0 || asked == 0) {
             System.exit(1);
@@ -124,11 +141,37 @@ final class Bench {
         return x;
     }
 
+    /** A stack of 1, 2, .. n, with n at the top. */
+    static GlulxModes pushedUpTo(int n) {
+        GlulxModes x = new GlulxModes();
+        for (int v = 1; v <= n; v++) {
+            x.push(v);
+        }
+        return x;
+    }
+
     /** The stack from the lowest to the top, as a text. */
     static String pile(GlulxModes x) {
         StringBuilder text = new StringBuilder();
         for (int k = x.told(3) - 1; k >= 0; k--) {
             text.append(x.stack(k)).append(k > 0 ? " " : "");
+        }
+        return text.toString();
+    }
+
+    /** All that can be told but the fault, and the bytes of a part of memory, as a text. */
+    static String state(GlulxModes x, int from, int to) {
+        StringBuilder text = new StringBuilder();
+        int[] told = {0, 1, 2, 3, 4, 6};
+        for (int what : told) {
+            text.append(x.told(what)).append(' ');
+        }
+        for (int at = 0; at < 64; at += 4) {
+            text.append(x.local(at)).append(' ');
+        }
+        text.append("stack ").append(pile(x)).append(" row ").append(x.row(0)).append(' ').append(x.row(1));
+        for (int at = from; at < to; at++) {
+            text.append(' ').append(x.octet(at));
         }
         return text.toString();
     }
