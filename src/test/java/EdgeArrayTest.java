@@ -138,7 +138,8 @@ public final class EdgeArrayTest {
             {0x4D, 255, 0, Bench.FIXED}, {0x4D, 256, -1, Bench.FIXED}, {0x4E, 1024, 0, Bench.OUTSIDE},
             {0x4E, 1023, 1, Bench.OUTSIDE}, {0x4E, 0, -1, Bench.OUTSIDE}, {0x4E, 255, 0, Bench.FIXED},
             {0x4E, 256, -1, Bench.FIXED}, {0x4F, 1024, 0, Bench.OUTSIDE}, {0x4F, 1023, 8, Bench.OUTSIDE},
-            {0x4F, 0, -1, Bench.OUTSIDE}, {0x4F, 255, 7, Bench.FIXED}, {0x4F, 256, -1, Bench.FIXED}, {0x4F, 0, 0, Bench.FIXED}};
+            {0x4F, 0, -1, Bench.OUTSIDE}, {0x4F, 255, 7, Bench.FIXED}, {0x4F, 256, -1, Bench.FIXED},
+            {0x4F, 0, 0, Bench.FIXED}};
         GlulxModes x = new GlulxModes();
         for (int[] row : faults) {
             String call = Integer.toHexString(row[0]) + " of " + row[1] + ", " + row[2];
@@ -254,8 +255,8 @@ public final class EdgeArrayTest {
     }
 
     private void turned() {
-        b.sentence("53 the upper l are turned up by the second l places (down, if it is below 0): the one at the top comes by"
-            + " one to the lowest of them");
+        b.sentence("53 the upper l are turned up by the second l places (down, if it is below 0): the one at the"
+            + " top comes by one to the lowest of them");
         turn(3, 1, "1 2 5 3 4");
         turn(3, -1, "1 2 4 5 3");
         turn(3, 2, "1 2 4 5 3");

@@ -332,7 +332,7 @@ public final class EdgeSearchTest {
     }
 
     private void halvesDoNotEnd() {
-        b.sentence("By halves: b is 0 .. (and no word of ENDED)");
+        b.sentence("One by one: .. ENDED: none, if one comes before");
         GlulxModes x = table(0, 0, 0, 4, 5);
         b.due("behind keys of 0", search(x, HALVES, 5, 1, 600, 1, 5, 0, PLACE | ENDED), 4);
         b.due("behind keys of 0", search(x, HALVES, 4, 1, 600, 1, 5, 0, PLACE | ENDED), 3);
@@ -377,7 +377,8 @@ public final class EdgeSearchTest {
             b.same("the first is the KEY, the seventh OPTIONS", Bench.pile(x), "3 0");
             b.due("not found, FIXED", Bench.act(x, op, one, one, n, n, one, n, n, Bench.mem(0)), Bench.FIXED);
             b.due("KEY before FIXED", Bench.act(x, op, one, n, n, n, one, n, n, Bench.mem(0)), Bench.KEY);
-            b.due("OUTSIDE before LOCAL", Bench.act(x, op, n, one, Bench.num(-1), n, one, n, n, Bench.loc(61)), Bench.OUTSIDE);
+            int both = Bench.act(x, op, n, one, Bench.num(-1), n, one, n, n, Bench.loc(61));
+            b.due("OUTSIDE before LOCAL", both, Bench.OUTSIDE);
         }
     }
 }
