@@ -174,9 +174,10 @@ public final class EdgeReckonTest {
         }
     }
 
-    private static final String FORMS = "0: 10:lls 11:lls 12:lls 13:lls 14:lls 15:ls 18:lls 19:lls 1A:lls 1B:ls 1C:lls"
-        + " 1D:lls 1E:lls 31:l 40:ls 41:ls 42:ls 44:ls 45:ls 48:lls 49:lls 4A:lls 4B:lls 4C:lll 4D:lll 4E:lll 4F:lll 50:s 51:ls"
-        + " 52: 53:ll 54:l 100:lls 120: 150:llllllls 151:llllllls 170:ll 171:lll";
+    private static final String FORMS =
+        "0: 10:lls 11:lls 12:lls 13:lls 14:lls 15:ls 18:lls 19:lls 1A:lls 1B:ls 1C:lls 1D:lls 1E:lls"
+        + " 31:l 40:ls 41:ls 42:ls 44:ls 45:ls 48:lls 49:lls 4A:lls 4B:lls 4C:lll 4D:lll 4E:lll 4F:lll"
+        + " 50:s 51:ls 52: 53:ll 54:l 100:lls 120: 150:llllllls 151:llllllls 170:ll 171:lll";
 
     private void behindEachRow() {
         b.sentence("Behind each ROW PC is the NEXT ROW");

@@ -250,6 +250,14 @@ public final class EdgeSearchTest {
         b.due("at once", search(x, LINE, 8, 1, 606, 1, 4, 0, ENDED | PLACE), -1);
         b.due("without an end", search(x, LINE, 8, 1, 608, 1, 2, 0, ENDED | PLACE), 0);
         b.due("the end's key is behind its first byte", search(x, LINE, 8, 1, 606, 2, 2, 1, ENDED | PLACE), -1);
+        x = table(5, 0, 0, 7, 8, 8);
+        b.due("a 0 before the key, and its first byte", search(x, LINE, 0x0808, 2, 600, 2, 3, 0, ENDED | PLACE), 2);
+        x = table(5, 7, 7, 0, 0, 8);
+        b.due("a 0 behind the key, and its last byte", search(x, LINE, 0x0008, 2, 600, 2, 3, 0, ENDED | PLACE), 2);
+        x = table(5, 0, 8);
+        b.due("INDIRECT is not ENDED", search(x, LINE, 602, 1, 600, 1, 3, 0, INDIRECT), 602);
+        b.due("PLACE is not ENDED", search(x, LINE, 8, 1, 600, 1, 3, 0, PLACE), 2);
+        b.due("INDIRECT and ENDED", search(x, LINE, 602, 1, 600, 1, 3, 0, INDIRECT | ENDED), 0);
         x = table(0, 4, 0, 5, 0, 6);
         b.due("a 0 beside the key", search(x, LINE, 6, 1, 600, 2, 3, 1, ENDED | PLACE), 2);
     }
@@ -325,6 +333,10 @@ public final class EdgeSearchTest {
         x = table(0x7F, 0xFF, 0xFF, 0xFF, 0x80, 0x00, 0x00, 0x00);
         b.due("four without signs", search(x, HALVES, 0x7FFFFFFF, 4, 600, 4, 2, 0, PLACE), 0);
         b.due("four without signs", search(x, HALVES, 0x80000000, 4, 600, 4, 2, 0, PLACE), 1);
+        x = table(1, 1, 1, 1, 7, 7);
+        b.due("b is m + 1, not m", search(x, HALVES, 7, 1, 600, 1, 6, 0, PLACE), 5);
+        x = table(7, 7, 7, 7, 9, 9, 9, 9);
+        b.due("t is m, not m - 1", search(x, HALVES, 7, 1, 600, 1, 8, 0, PLACE), 2);
         x = table(9, 8, 7, 6, 5);
         b.due("not in order, the middle", search(x, HALVES, 7, 1, 600, 1, 5, 0, PLACE), 2);
         b.due("not in order", search(x, HALVES, 9, 1, 600, 1, 5, 0, PLACE), -1);
