@@ -10,6 +10,7 @@ public final class StateTest {
         clearing(b);
         telling(b);
         locals(b);
+        nothingElseChanges(b);
         b.end();
     }
 
@@ -180,5 +181,42 @@ public final class StateTest {
         b.due("local -4", x.local(-4), 0);
         b.due("local max", x.local(Bench.MAX), 0);
         b.due("local min", x.local(Bench.MIN), 0);
+    }
+
+    /** Calls that neither go nor do rows leave PC, DONE, the ANSWER, the FAULT and the count of rows as they are. */
+    private static void nothingElseChanges(Bench b) {
+        GlulxModes x = new GlulxModes();
+        Bench.act(x, 0x31, Bench.num(5));
+        otherCalls(x);
+        int[] done = {19, 1, 5, 0, 300, 0, 1};
+        for (int what = 0; what < done.length; what++) {
+            b.due("DONE, told " + what, x.told(what), done[what]);
+        }
+        Bench.act(x, 0x14, Bench.num(5), Bench.NIL, Bench.NIL);
+        otherCalls(x);
+        int[] faulty = {16, 0, 5, 0, 300, 6, 1};
+        for (int what = 0; what < faulty.length; what++) {
+            b.due("FAULT, told " + what, x.told(what), faulty[what]);
+        }
+        b.due("what was read stays", x.row(0), 0);
+    }
+
+    private static void otherCalls(GlulxModes x) {
+        x.lay(400, 8, -1L);
+        x.lay(400, 9, -1L);
+        x.ram(300);
+        x.ram(-1);
+        x.push(7);
+        x.read(500);
+        x.read(-1);
+        x.row(0);
+        x.row(-1);
+        x.run(-1);
+        x.run(2001);
+        x.told(7);
+        x.octet(-1);
+        x.local(-1);
+        x.stack(-1);
+        x.clear();
     }
 }
