@@ -35,6 +35,7 @@ public final class FaceTest {
         for (Class<?> inside : GlulxModes.class.getDeclaredClasses()) {
             b.due(inside + " static", Modifier.isStatic(inside.getModifiers()) ? 1 : 0, 1);
             staticFields(b, inside);
+            methods(b, inside);
         }
         words(b);
         b.end();
@@ -59,6 +60,15 @@ public final class FaceTest {
             if (Modifier.isStatic(f.getModifiers())) {
                 b.due(f + " final", Modifier.isFinal(f.getModifiers()) ? 1 : 0, 1);
             }
+        }
+    }
+
+    /** Rule 1: no private method bears the name of a public one; rule 11: at most seven parameters. */
+    private static void methods(Bench b, Class<?> inside) {
+        for (Method m : inside.getDeclaredMethods()) {
+            String face = " " + String.join(" ", FACE);
+            b.due(m + " bears a name of the face", face.contains(" " + m.getName() + "(") ? 1 : 0, 0);
+            b.due(m + " parameters", m.getParameterCount() <= 7 ? 1 : 0, 1);
         }
     }
 
